@@ -181,7 +181,7 @@ public final class LetterFoundry {
     }
 
     public int flatten(int l, int t) {
-        if (!flattenToSpare(l, t)) {
+        if (!flattener.fill(letterOf(l), t, sparePolygons)) {
             return NONE;
         }
         takeSparePolygons();
@@ -216,10 +216,10 @@ public final class LetterFoundry {
     }
 
     public int image(int l, int t, int s, int rule) {
-        if (!isDots(s) || !within(rule, 0, 1) || !flattenToSpare(l, t)) {
+        if (!isDots(s) || !within(rule, 0, 1)) {
             return NONE;
         }
-        if (!Image.holds(sparePolygons, s)) {
+        if (!flattener.fill(letterOf(l), t, sparePolygons) || !Image.holds(sparePolygons, s)) {
             return NONE;
         }
         takeSparePolygons();
@@ -383,14 +383,6 @@ public final class LetterFoundry {
 
     private Letter letterOf(int l) {
         return within(l, 0, letterCount - 1) ? letters[l] : null;
-    }
-
-    private boolean flattenToSpare(int l, int t) {
-        Letter letter = letterOf(l);
-        if (letter == null || !within(t, 1, NEARNESS_MOST)) {
-            return false;
-        }
-        return flattener.fill(letter, t, sparePolygons);
     }
 
     private void takeSparePolygons() {
@@ -806,7 +798,11 @@ public final class LetterFoundry {
         private long limit;
         private int degree;
 
+        /** Whether the letter, which may be null, can be flattened by t. */
         boolean fill(Letter letter, int t, Polygons out) {
+            if (letter == null || !within(t, 1, NEARNESS_MOST)) {
+                return false;
+            }
             limit = (long) t << BITS;
             out.clear();
             addLetter(letter, 0, out);
@@ -1122,32 +1118,32 @@ public final class LetterFoundry {
             }
             boolean fits = true;
             int a = from;
-            // Once round from the first touched point; with one alone it is both A and B.
-            for (int step = 1; from < end && step <= end - start; step++) {
-                int b = from + step < end ? from + step : from + step - end + start;
-                if (touched[axis][b] != 0) {
-                    fits = fitBetween(axis, a, b, start, end) && fits;
-                    a = b;
-                }
-            }
-            return fits;
-        }
-
-        private boolean fitBetween(int axis, int a, int b, int start, int end) {
-            boolean fits = true;
-            int k = a + 1 < end ? a + 1 : start;
-            for (int step = start; step < end && k != b; step++) {
-                long place = placeBetween(axis, a, b, first[axis][k]);
-                if (within(place, -MOST, MOST)) {
-                    now[axis][k] = (int) place;
+            int b = from;
+            // Once round from the first touched point on, so that A is known from the start.
+            for (int step = 0; from < end && step < end - start; step++) {
+                int k = from + step < end ? from + step : from + step - end + start;
+                if (touched[axis][k] != 0) {
+                    a = k;
+                    b = touchedBehind(axis, k, start, end);
                 } else {
-                    fits = false;
+                    long place = placeBetween(axis, a, b, first[axis][k]);
+                    fits = fits && within(place, -MOST, MOST);
+                    now[axis][k] = (int) place;
                 }
-                k = k + 1 < end ? k + 1 : start;
             }
             return fits;
         }
 
+        // Round to the point itself, if it is the only one.
+        private int touchedBehind(int axis, int a, int start, int end) {
+            int b = a + 1 < end ? a + 1 : start;
+            for (int step = start; step < end && touched[axis][b] == 0; step++) {
+                b = b + 1 < end ? b + 1 : start;
+            }
+            return b;
+        }
+
+        // With one alone A is B as well: then its own move is what all the others get.
         private long placeBetween(int axis, int a, int b, long o) {
             long oa = first[axis][a];
             long ob = first[axis][b];

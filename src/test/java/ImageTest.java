@@ -98,6 +98,8 @@ public final class ImageTest {
         Check.due("the last dot", g.dot(47, 47), 64);
         Check.due("box", g.box(2), 47);
         Check.due("beyond", g.dot(48, 47), 0);
+        Check.due("beyond", g.dot(47, 48), 0);
+        Check.due("beyond", g.dot(48, 46), 0);
         Check.due("far beyond", g.dot(Integer.MAX_VALUE, Integer.MIN_VALUE), 0);
         g.move(0, 1, 12288, 12000);
         Check.due("x at 48", g.image(0, 1, 4, 0), -1);

@@ -4,6 +4,7 @@ public final class KerningTest {
         refusals();
         classes();
         exceptions();
+        allLetters();
         Check.end();
     }
 
@@ -61,6 +62,23 @@ public final class KerningTest {
         Check.due("again", f.kern(15, 3, 0), true);
         Check.due("0 1", f.kerning(0, 1), 0);
         Check.due("letter 3 isn't there", f.kerning(2, 3), 0);
+    }
+
+    private static void allLetters() {
+        LetterFoundry f = new LetterFoundry();
+        for (int k = 0; k < 32; k++) {
+            f.letter(k, 0);
+        }
+        f.classOf(31, 0, 15);
+        f.kern(0, 15, 9);
+        Check.due("0 31", f.kerning(0, 31), 9);
+        Check.due("31 31", f.kerning(31, 31), 9);
+        f.kern(0, 0, 4);
+        Check.due("31 0", f.kerning(31, 0), 4);
+        Check.due("exception", f.exception(31, 31, -1), true);
+        Check.due("31 31", f.kerning(31, 31), -1);
+        Check.due("letter 32", f.exception(32, 31, 1), false);
+        Check.due("letter 32", f.kerning(31, 32), 0);
     }
 
     private static void exceptions() {

@@ -47,6 +47,9 @@ public final class LettersTest {
         Check.due("find 31", f.find(31), -1);
         Check.due("find 65535", f.find(65535), 0);
         Check.due("find -1", f.find(-1), -1);
+        Check.due("letter 32", f.info(32, 0), -2);
+        Check.due("letter 33", f.outline(33), -1);
+        Check.due("letter 31", f.info(31, 0), 30);
     }
 
     private static void infos() {

@@ -40,6 +40,9 @@ public final class PartsTest {
         }
         Check.due("a seventh", f.part(0, 3, 0, 0), -1);
         Check.due("parts", f.info(0, 4), 6);
+        Check.due("matrix of the last", f.matrix(0, 5, 1, 1, 1, 1), true);
+        Check.due("matrix of none", f.matrix(0, 6, 1, 1, 1, 1), false);
+        Check.due("matrix of none", f.matrix(0, 7, 1, 1, 1, 1), false);
     }
 
     private static void depths() {
@@ -76,6 +79,10 @@ public final class PartsTest {
         f.flatten(1, 1);
         Check.due("x", f.flat(0, 1), 1003);
         Check.due("y", f.flat(0, 2), -1995);
+        f.move(0, 1, 32000, 31000);
+        f.flatten(1, 1);
+        Check.due("x by the first matrix", f.flat(1, 1), 33000);
+        Check.due("y by the first matrix", f.flat(1, 2), 29000);
         Check.due("matrix", f.matrix(1, 0, -32768, 32767, 8192, 24576), true);
         f.flatten(1, 1);
         // x: (-32768 * 3 + 32767 * 5) / 16384 = 3.9997; y: (8192 * 3 + 24576 * 5) / 16384 = 9

@@ -139,9 +139,12 @@ public final class ProgramTest {
         Check.due("go behind the last", f.run(0, 16), 0);
         Check.program(f, 0, 18, 2, 2, 0);
         Check.due("call behind the last", f.run(0, 16), 0);
-        Check.program(f, 0, 0, 1, 21, 0, 15, 0, 20, 0);
-        Check.due("store and stack", f.run(0, 16), 0);
-        Check.due("are new with each run", f.run(0, 16), 0);
+        Check.program(f, 0, new int[2 * 20]);
+        Check.due("20 on the stack", f.run(0, 16), 0);
+        Check.due("which is new with each run", f.run(0, 16), 0);
+        Check.program(f, 0, 18, 1, 18, 2, 18, 3, 18, 4, 18, 5, 30, 0);
+        Check.due("5 calls", f.run(0, 16), 0);
+        Check.due("which are new with each run", f.run(0, 16), 0);
         Check.program(f, 0, 21, 0, 23, 0, 0, 50, 20, 0);
         f.run(0, 16);
         f.run(0, 16);
@@ -204,6 +207,30 @@ public final class ProgramTest {
         Check.program(g, 0, 0, 110, 23, 0, 28, 0, 0, 310, 23, 2, 28, 0);
         xs(g, 110, 110, 310, 315);
         fittingsOfOutlines();
+        fullLetter();
+    }
+
+    private static void fullLetter() {
+        LetterFoundry f = new LetterFoundry();
+        f.letter(1, 0);
+        for (int o = 0; o < 8; o++) {
+            f.outline(0);
+            for (int k = 0; k < (o < 7 ? 12 : 16); k++) {
+                f.point(0, 100 * o + k, k * k, 0);
+            }
+            Check.due("close", f.close(0), 0);
+        }
+        Check.due("points", f.info(0, 3), 100);
+        Check.due("flatten", f.flatten(0, 1), 100);
+        Check.due("the last outline", f.at(0, 99, 3), 7);
+        Check.program(f, 0, 29, 0, 0, 700, 23, 99, 28, 0);
+        Check.due("run", f.run(0, 16), 0);
+        Check.due("x of 99", f.fitted(99, 0), 700);
+        Check.due("x of 84", f.fitted(84, 0), 685);
+        Check.due("x of 83", f.fitted(83, 0), 611);
+        Check.due("y of 99", f.fitted(99, 1), 225);
+        Check.due("point 100", f.fitted(100, 0), -2000000000);
+        Check.due("point 100", f.at(0, 100, 0), -100000);
     }
 
     private static void fittingsOfOutlines() {
@@ -244,9 +271,15 @@ public final class ProgramTest {
             full[64] = op;
             Check.due("full: " + op, fault(full), 1);
         }
-        for (int op : new int[] {3, 4, 8, 12, 20, 23, 28, 2}) {
+        for (int op : new int[] {2, 3, 4, 8, 12, 16, 17, 18, 19, 20, 23, 25, 26, 27, 28, 29, 30}) {
+            full[65] = op >= 16 && op <= 18 ? 33 : 0;
             full[64] = op;
             Check.due("not too full: " + op, fault(full), 0);
+        }
+        int[] nearlyFull = new int[64];
+        for (int op : new int[] {0, 1, 21, 22, 24}) {
+            nearlyFull[62] = op;
+            Check.due("up to 32: " + op, fault(nearlyFull), 0);
         }
         for (int op = 22; op <= 27; op++) {
             Check.due("no point", fault(0, 5, op, 3), 2);
