@@ -8,6 +8,7 @@ public final class EdgesOfFittingTest {
         bothAtOnePlace();
         round();
         eachOutline();
+        hundredPoints();
         fromTheFirstPlaces();
         toTheGrid();
         Check.end();
@@ -113,11 +114,49 @@ public final class EdgesOfFittingTest {
         for (int o = 0; o < 3; o++) {
             Bench.outline(f, 0, 100 * o, 0, 0, 100 * o + 10, 0, 0, 100 * o + 20, 0, 0);
         }
-        Bench.acts(f, 0, 0, 15, 23, 2, 0, 200, 23, 6, 0, 240, 23, 8, 28, 0);
+        Bench.acts(f, 0, 0, 15, 23, 2, 0, 300, 23, 6, 0, 340, 23, 8, 28, 0);
         Check.due("run", f.run(0, 16), 0);
-        int[] due = {-5, 5, 15, 100, 110, 120, 200, 220, 240};
+        int[] due = {-5, 5, 15, 100, 110, 120, 300, 320, 340};
         for (int k = 0; k < due.length; k++) {
             Check.due("x of " + k, f.fitted(k, 0), due[k]);
+        }
+        roundInEachOutline();
+    }
+
+    // Round in an outline behind another, and ahead of another whose first point is touched, too.
+    private static void roundInEachOutline() {
+        LetterFoundry f = Edge.made(Bench.FEW);
+        for (int o = 0; o < 3; o++) {
+            Bench.outline(f, 0, 50, 0, 0, 0, 0, 0, 50, 0, 0, 100, 0, 0, 200, 0, 0);
+        }
+        // of the first and the second outline points 1 and 3, of the third its first one
+        Bench.acts(f, 0, 0, 0, 23, 1, 0, 1000, 23, 3, 0, 100, 23, 6, 0, 600, 23, 8, 0, 9050, 23, 10, 28, 0);
+        Check.due("run", f.run(0, 16), 0);
+        int[] due = {500, 0, 500, 1000, 1100, 350, 100, 350, 600, 700, 9050, 9000, 9050, 9100, 9200};
+        for (int k = 0; k < due.length; k++) {
+            Check.due("x of " + k, f.fitted(k, 0), due[k]);
+        }
+    }
+
+    // A full LETTER: the touched ones are its first, its last, the one ahead of the last.
+    private static void hundredPoints() {
+        for (int touched : new int[] {0, 1, 50, 98, 99}) {
+            LetterFoundry f = Edge.made(Bench.FEW);
+            f.outline(0);
+            for (int k = 0; k < 100; k++) {
+                f.point(0, k, 2 * k, 0);
+            }
+            Check.due("close", f.close(0), 0);
+            Bench.acts(f, 0, 28, 0, 0, 1000 + touched, 23, touched, 28, 0, 0, 99, 25, 99, 0, 0, 25, 0, 29, 0);
+            Check.due("run", f.run(0, 16), 0);
+            for (int k = 0; k < 100; k++) {
+                Check.due("x of " + k, f.fitted(k, 0), 1000 + k);
+            }
+            // along y all are drawn together to the half
+            for (int k = 0; k < 100; k++) {
+                Check.due("y of " + k, f.fitted(k, 1), k);
+            }
+            Check.due("no point 100", f.fitted(100, 0), -2000000000);
         }
     }
 
@@ -149,13 +188,16 @@ public final class EdgesOfFittingTest {
         };
         for (int[] due : dues) {
             LetterFoundry f = Edge.made(Bench.FEW);
-            Bench.outline(f, 0, due[0], due[0], 0, 1, 1, 0);
-            Bench.acts(f, 0, 26, 0, 27, 0, 0, due[0], 10, 0, 23, 1);
+            Bench.outline(f, 0, due[0], 1000, 0, 1000, due[0], 0);
+            Bench.acts(f, 0, 26, 0, 27, 1, 0, due[0], 10, 0, 23, 1);
             Check.due("run", f.run(0, 16), 0);
             Check.due("x " + due[0], f.fitted(0, 0), due[1]);
-            Check.due("y " + due[0], f.fitted(0, 1), due[1]);
+            Check.due("its y stays", f.fitted(0, 1), 1000);
+            Check.due("y " + due[0], f.fitted(1, 1), due[1]);
             Check.due("a number " + due[0], f.fitted(1, 0), due[1]);
-            Check.due("touched", f.fitted(0, 2) + f.fitted(0, 3), 2);
+            Check.due("touched along x", f.fitted(0, 2), 1);
+            Check.due("not along y", f.fitted(0, 3), 0);
+            Check.due("touched along y", f.fitted(1, 3), 1);
         }
         int[][] downs = {{0, 0}, {1, 0}, {63, 0}, {64, 64}, {65, 64}, {-1, -64}, {-63, -64}, {-64, -64}, {-65, -128}};
         for (int[] due : downs) {

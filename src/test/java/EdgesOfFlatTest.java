@@ -8,6 +8,7 @@ public final class EdgesOfFlatTest {
         notAboveT();
         fractionsAboveT();
         tenHalvings();
+        exactBehindTenHalvings();
         roundedEnds();
         sameAsTheOneAhead();
         fiveHundredPoints();
@@ -18,6 +19,7 @@ public final class EdgesOfFlatTest {
         windingNumbers();
         crossings();
         areas();
+        ofTheLatestAlone();
         Check.end();
     }
 
@@ -109,6 +111,20 @@ public final class EdgesOfFlatTest {
         };
         Edge.refused("too many", far, -1, f -> f.flatten(1, 1));
         Edge.taken("fewer by 256", far, 1, f -> Edge.of(f.flatten(1, 256) > 0));
+    }
+
+    // "all exact": behind ten halvings of a THREE 30 bits behind the point still count
+    private static void exactBehindTenHalvings() {
+        LetterFoundry f = Edge.made(Bench.FEW);
+        // x comes to be -2 x + y - 32000: 31227, -46000, -122117, 63995
+        Bench.outline(f, 0, -16000, 31227, 0, 0, -14000, 2, 30000, -30117, 2, -32000, 31995, 0);
+        f.part(1, 0, -32000, 0);
+        f.matrix(1, 0, -32768, 16384, 0, 0);
+        int count = f.flatten(1, 1);
+        Check.due("its start", f.flat(0, 1), 31227);
+        Check.due("its end", f.flat(count - 1, 1), 63995);
+        // the last end but one, at 1023 / 1024, is 63450.5 and a part of 2 to the 30th above it
+        Check.due("a little above a half", f.flat(count - 2, 1), 63451);
     }
 
     private static int lastGap(int[] xs, int back) {
@@ -303,6 +319,33 @@ public final class EdgesOfFlatTest {
                 Check.due("outside " + p[0] + " " + p[1], f.winding(p[0], p[1]), 0);
             }
         }
+        // not from 0 on, neither along x nor along y
+        for (int turn = 1; turn >= -1; turn -= 2) {
+            LetterFoundry f = Edge.made(outline(5, 5, 0, 15, 5, 0, 15, 25, 0, 5, 25, 0));
+            if (turn < 0) {
+                f.reverse(0, 0);
+            }
+            f.flatten(0, 1);
+            Check.due("its lower left", f.winding(80, 80), turn);
+            Check.due("below it", f.winding(80, 79), 0);
+            Check.due("its upper right", f.winding(239, 399), turn);
+            Check.due("above it", f.winding(239, 400), 0);
+        }
+        windingsOfSlopes();
+    }
+
+    private static void windingsOfSlopes() {
+        // by the least that there is: 2 Y - X is 1, 0, -1
+        for (int turn = 1; turn >= -1; turn -= 2) {
+            LetterFoundry f = Edge.made(outline(0, 0, 0, 2, 1, 0, 0, 1, 0));
+            if (turn < 0) {
+                f.reverse(0, 0);
+            }
+            f.flatten(0, 1);
+            Check.due("just left of it", f.winding(1, 1), turn);
+            Check.due("on it", f.winding(2, 1), 0);
+            Check.due("just right of it", f.winding(3, 1), 0);
+        }
         // a slope: at height 1 / 16 it is at 2 / 16
         LetterFoundry f = Edge.made(outline(0, 0, 0, 20, 10, 0, 0, 10, 0));
         f.flatten(0, 1);
@@ -357,6 +400,7 @@ public final class EdgesOfFlatTest {
     private static void crossings() {
         // a polygon of two has two edges, there and back: a cross of two such has 4 pairs
         crossingsOf("a cross", 4, 0, 0, 10, 10, 0, 10, 10, 0);
+        crossingsOf("the least cross", 4, 0, 0, 1, 1, 0, 1, 1, 0);
         crossingsOf("an end on the other", 0, 0, 0, 10, 0, 5, 0, 5, 10);
         crossingsOf("an end behind the other", 4, 0, 0, 10, 0, 5, -1, 5, 10);
         crossingsOf("an end ahead of the other", 0, 0, 0, 10, 0, 5, 1, 5, 10);
@@ -388,5 +432,32 @@ public final class EdgesOfFlatTest {
             }
         };
         Edge.taken("large", eight, 16L * 64000 * 64000, f -> f.flatten(0, 1) - 32 + f.area());
+        for (int turn = 1; turn >= -1; turn -= 2) {
+            LetterFoundry f = Edge.made(eight);
+            f.part(1, 0, 0, 0);
+            f.matrix(1, 0, -32768, 0, 0, -32768 * turn - (turn < 0 ? 1 : 0));
+            Check.due("flatten", f.flatten(1, 1), 32);
+            // 64000 and 64000, or 64000 and 63998 with the turn changed
+            long side = turn > 0 ? 128000 : 127996;
+            Check.due("larger", f.area(), turn * 16L * 128000 * side);
+        }
+    }
+
+    // ".. of these polygons": of an earlier flatten() with more points nothing is left
+    private static void ofTheLatestAlone() {
+        LetterFoundry f = Edge.made(Bench.FEW);
+        Bench.outline(f, 0, 0, 0, 0, 10, 0, 0, 0, 10, 0);
+        Bench.outline(f, 0, 1, 1, 0, 30, 2, 0, -30, 3, 0, 40, 4, 0, -40, 5, 0);
+        f.flatten(0, 1);
+        f.flatten(0, 1);
+        f.drop(0);
+        f.flatten(0, 1);
+        Check.due("area", f.area(), 100);
+        Check.due("crossings", f.crossings(), 0);
+        for (int y = 1; y < 160; y += 8) {
+            Check.due("winding", f.winding(-1, y), 0);
+            Check.due("winding", f.winding(0, y), 1);
+        }
+        Check.due("no more points", f.flat(3, 1), -1000000);
     }
 }

@@ -8,6 +8,7 @@ public final class EdgesOfImagesTest {
         pointsOfThePolygons();
         rules();
         samples();
+        slopes();
         dots();
         boxes();
         latest();
@@ -135,6 +136,38 @@ public final class EdgesOfImagesTest {
         Check.due("at 4", count(square(16, 16, 1), 4, 0, 0), 1);
     }
 
+    // Where an edge is no upright one: the samples on it are not left of it.
+    private static void slopes() {
+        // at 8 dots an EM: dot 2, 3 is from 256 to 384 and from 384 to 512
+        Same.Script upper = f -> {
+            Bench.FEW.play(f);
+            Bench.outline(f, 0, 256, 384, 0, 384, 512, 0, 256, 512, 0);
+        };
+        Same.Script lower = f -> {
+            Bench.FEW.play(f);
+            Bench.outline(f, 0, 256, 384, 0, 384, 384, 0, 384, 512, 0);
+        };
+        // the eight samples of the diagonal are on the upper one's right edge, and the lower one's left one
+        Check.due("above the diagonal", count(upper, 8, 2, 3), 28);
+        Check.due("below the diagonal", count(lower, 8, 2, 3), 36);
+        Same.Script falling = f -> {
+            Bench.FEW.play(f);
+            Bench.outline(f, 0, 384, 384, 0, 384, 512, 0, 256, 512, 0);
+        };
+        Check.due("above the falling one", count(falling, 8, 2, 3), 36);
+        Same.Script steep = f -> {
+            Bench.FEW.play(f);
+            // its right edge is at 256 + (y - 384) / 2: samples of row b are at 264 + 16 a below 260 + 8 b
+            Bench.outline(f, 0, 256, 384, 0, 320, 512, 0, 256, 512, 0);
+        };
+        Check.due("a steep one", count(steep, 8, 2, 3), 1 + 1 + 2 + 2 + 3 + 3 + 4);
+        Same.Script belowZero = f -> {
+            Bench.FEW.play(f);
+            Bench.outline(f, 0, -256, -384, 0, -128, -256, 0, -256, -256, 0);
+        };
+        Check.due("below 0", count(belowZero, 8, -2, -3), 28);
+    }
+
     // "The count of a dot of the latest image; 0 beyond, and without any."
     private static void dots() {
         int[] far = {Integer.MIN_VALUE, -1000, -17, 48, 64, 1000, Integer.MAX_VALUE};
@@ -186,6 +219,21 @@ public final class EdgesOfImagesTest {
         int[] two = {2, 3, 9, 5};
         for (int what = 0; what < 4; what++) {
             Check.due("box of two", f.box(what), two[what]);
+        }
+        // of the latest image alone: a smaller one within, then one elsewhere
+        f.drop(0);
+        f.drop(0);
+        addSquare(f, 4 * 128, 4 * 128, 128);
+        Check.due("one dot", f.image(0, 1, 8, 0), 1);
+        for (int what = 0; what < 4; what++) {
+            Check.due("box of one", f.box(what), 4);
+        }
+        Check.due("no dot of the one ahead", f.dot(2, 5), 0);
+        f.drop(0);
+        addSquare(f, -7 * 128, -7 * 128, 128);
+        Check.due("one dot", f.image(0, 1, 8, 0), 1);
+        for (int what = 0; what < 4; what++) {
+            Check.due("box of one below 0", f.box(what), -7);
         }
         LetterFoundry g = Edge.made(square(10, 10, 10));
         Check.due("between samples", g.image(0, 1, 8, 0), 0);

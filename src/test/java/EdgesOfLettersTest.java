@@ -166,6 +166,9 @@ public final class EdgesOfLettersTest {
         Edge.refused("the 101st", full, -1, f -> f.point(5, 1, 1, 0));
         Edge.taken("all are closed", full, 0, f -> f.close(5));
         Edge.taken("the last is there", full, 99, f -> f.close(5) + f.at(5, 99, 0));
+        Edge.taken("all are flattened", full, 100, f -> f.close(5) + f.flatten(5, 1));
+        Edge.taken("all are drawn", full, 1, f -> f.close(5) + Edge.of(f.image(5, 1, 32, 0) >= 0));
+        Edge.taken("reversed", full, 1, f -> f.close(5) + Edge.of(f.reverse(5, 0)) - 1 + f.at(5, 99, 0));
         Edge.refused("no point 100", full, -100000, f -> f.at(5, 100, 0));
         Edge.taken("another letter's", full, 3, f -> f.point(1, 1, 1, 0));
         // 7 of letter 0 are closed: 93 may come
@@ -224,10 +227,15 @@ public final class EdgesOfLettersTest {
                     kinds[k] = rest % 3;
                     text.append(kinds[k]);
                 }
-                LetterFoundry f = Edge.made(Bench.FEW);
-                f.outline(1);
-                addKinds(f, 1, kinds);
-                Check.due("close " + text, f.close(1), closeOf(text.toString()));
+                for (int ahead = 0; ahead < 3; ahead++) {
+                    LetterFoundry f = Edge.made(Bench.FEW);
+                    for (int o = 0; o < ahead; o++) {
+                        Bench.outline(f, 1, 0, 0, 0, 9, 9, 1);
+                    }
+                    f.outline(1);
+                    addKinds(f, 1, kinds);
+                    Check.due("close " + text, f.close(1), closeOf(text.toString()));
+                }
             }
         }
     }
@@ -295,5 +303,39 @@ public final class EdgesOfLettersTest {
             Bench.outline(f, 0, 1, 2, 0, 3, 4, 1);
         };
         Edge.refused("two points stand as they stood", two, 1, f -> Edge.of(f.reverse(0, 0)));
+        for (int points = 3; points <= 7; points++) {
+            reversed(points);
+        }
+    }
+
+    // "DELTAS go with their POINTS": each has a place, a kind and DELTAS of its own
+    private static void reversed(int points) {
+        LetterFoundry f = Edge.made(Bench.FEW);
+        Bench.outline(f, 0, 1, 1, 0, 2, 2, 0);
+        f.outline(0);
+        for (int k = 0; k < points; k++) {
+            f.point(0, 10 * k, 20 * k, k == 1 ? 1 : 0);
+        }
+        Check.due("close", f.close(0), 0);
+        for (int k = 0; k < points; k++) {
+            for (int m = 0; m < 3; m++) {
+                f.delta(0, m, 2 + k, 100 * m + k, -100 * m - k);
+            }
+        }
+        Check.due("reverse", f.reverse(0, 1), true);
+        for (int m = 0; m < 3; m++) {
+            f.weight(0, m == 0 ? 16384 : 0);
+            f.weight(1, m == 1 ? 16384 : 0);
+            f.weight(2, m == 2 ? 16384 : 0);
+            for (int k = 0; k < points; k++) {
+                int was = k == 0 ? 0 : points - k;
+                Check.due("x of " + k, f.at(0, 2 + k, 0), 10 * was);
+                Check.due("y of " + k, f.at(0, 2 + k, 1), 20 * was);
+                Check.due("kind of " + k, f.at(0, 2 + k, 2), was == 1 ? 1 : 0);
+                Check.due("mixed x of " + k, f.mixed(0, 2 + k, 0), 10 * was + 100 * m + was);
+                Check.due("mixed y of " + k, f.mixed(0, 2 + k, 1), 20 * was - 100 * m - was);
+            }
+        }
+        Check.due("the outline ahead stays", f.at(0, 1, 0), 2);
     }
 }

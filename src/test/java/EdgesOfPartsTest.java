@@ -103,6 +103,13 @@ public final class EdgesOfPartsTest {
             f.part(1, 0, 0, 0);
         };
         Edge.refused("the first matrix", one, 1, f -> Edge.of(f.matrix(1, 0, 16384, 0, 0, 16384)));
+        Same.Script far = f -> {
+            one.play(f);
+            f.move(0, 0, 32000, 31000);
+            f.flatten(1, 1);
+        };
+        Edge.taken("the first matrix leaves x as it is", far, 32000, f -> f.flat(0, 1));
+        Edge.taken("and y", far, 31000, f -> f.flat(0, 2));
         place(one, new int[] {16384, 0, 0, 16384}, 1000, 3000);
         // 32767 / 16384 is a little less than 2
         place(one, new int[] {-32768, 0, 0, 32767}, -2000, 6000);

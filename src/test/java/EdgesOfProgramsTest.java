@@ -21,6 +21,8 @@ public final class EdgesOfProgramsTest {
         store();
         numbers();
         madePlaces();
+        comparing();
+        pointsAndStack();
         leastFault();
         Check.end();
     }
@@ -67,7 +69,8 @@ public final class EdgesOfProgramsTest {
             Edge.taken("arg", Bench.RICH, -1, f -> f.act(0, op, -100001));
         }
         Edge.numbers("arg", Bench.RICH, -100000, 100000, -1, (f, arg) -> f.act(0, 0, arg));
-        Edge.refused("parts", Bench.RICH, -1, f -> f.act(2, 0, 0));
+        Edge.refused("two parts", Bench.RICH, -1, f -> f.act(2, 0, 0));
+        Edge.refused("one part", Bench.RICH, -1, f -> f.act(3, 0, 0));
         Edge.taken("the first of a letter", Bench.RICH, 1, f -> f.act(LETTERS - 1, 0, 0));
         Edge.taken("an open outline doesn't matter", Bench.RICH, 1, f -> f.act(5, 0, 0));
     }
@@ -360,6 +363,46 @@ public final class EdgesOfProgramsTest {
             fault("beyond by one below 0", 8, joined(less, 0, axis == 0 ? 399 : 299, 4, 0, put, 2, fit, 0));
             good("just within below 0", joined(less, 0, axis == 0 ? 400 : 300, 4, 0, put, 2, fit, 0));
         }
+    }
+
+    // "12 the lesser of two. 13 the greater. 14 64 if the one below is less than the top .. 15 64 if they are the same"
+    private static void comparing() {
+        int[][] dues = {
+            // below, top, then what 12 .. 15 leave
+            {4, 5, 4, 5, 64, 0}, {5, 5, 5, 5, 0, 64}, {6, 5, 5, 6, 0, 0}, {-1, 0, -1, 0, 64, 0},
+            {0, 0, 0, 0, 0, 64}, {1, 0, 0, 1, 0, 0}, {-100000, 100000, -100000, 100000, 64, 0}
+        };
+        for (int[] d : dues) {
+            for (int k = 0; k < 4; k++) {
+                leaves("act " + (12 + k) + " of " + d[0] + " " + d[1], d[2 + k], 0, d[0], 0, d[1], 12 + k, 0);
+            }
+        }
+    }
+
+    // "1 double the top. 2 drop. 3 change the two."; "22 push x of POINT arg. .. 24, 25 so for y."
+    private static void pointsAndStack() {
+        leaves("double: the copy", 7, 0, 7, 1, 0);
+        leaves("double: both are there", 14, 0, 7, 1, 0, 4, 0);
+        leaves("change: the top", 7, 0, 7, 0, 9, 3, 0);
+        leaves("change: the one below", 9, 0, 7, 0, 9, 3, 0, 2, 0);
+        leaves("less", -2, 0, 7, 0, 9, 5, 0);
+        leaves("x of the last", 300, 22, 6);
+        leaves("y of the last", 100, 24, 6);
+        leaves("x of another", 200, 22, 5);
+        leaves("y of another", 250, 24, 5);
+        Same.Script put = with(0, 11, 23, 6, 0, 12, 25, 5);
+        Edge.taken("x is put", put, 11, f -> f.run(0, 16) + f.fitted(6, 0));
+        Edge.taken("its y stays", put, 100, f -> f.run(0, 16) + f.fitted(6, 1));
+        Edge.taken("y is put", put, 12, f -> f.run(0, 16) + f.fitted(5, 1));
+        Edge.taken("its x stays", put, 200, f -> f.run(0, 16) + f.fitted(5, 0));
+        Edge.taken("touched along x", put, 1, f -> f.run(0, 16) + f.fitted(6, 2));
+        Edge.taken("not along y", put, 0, f -> f.run(0, 16) + f.fitted(6, 3));
+        // an act that takes no arg may have any
+        leaves("any arg", 14, 0, 7, 1, 99999, 4, -99999);
+        good("any arg of 15", 0, 5, 0, 6, 15, -100000);
+        good("any arg of 19", 19, 100000);
+        good("any arg of 30", 30, -100000);
+        good("any arg of 28 and 29", 28, -5, 29, 100000);
     }
 
     // "Of one act the least that it is"
