@@ -841,7 +841,8 @@ public final class LetterFoundry {
                     y[i] = placedY[k] << BITS;
                 }
                 addPiece(0, out);
-                from += degree;
+                // A piece has a point at least, whatever the kinds are: so this comes to its end.
+                from += Math.max(1, degree);
             }
             out.finish();
         }

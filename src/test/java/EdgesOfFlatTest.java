@@ -5,6 +5,7 @@ public final class EdgesOfFlatTest {
 
     public static void main(String[] args) {
         numbers();
+        roundPieces();
         notAboveT();
         fractionsAboveT();
         tenHalvings();
@@ -49,6 +50,24 @@ public final class EdgesOfFlatTest {
         Edge.taken("no outlines", Bench.RICH, 0, f -> f.flatten(4, 1));
         Edge.taken("an open one alone", Bench.RICH, 0, f -> f.flatten(5, 1));
         Edge.taken("the last letter", Bench.RICH, 0, f -> f.flatten(LETTERS - 1, 1));
+    }
+
+    // "Its PIECES, from POINT 0 on, round": the last one ends at POINT 0, whatever it is
+    private static void roundPieces() {
+        flattened("a line", outline(0, 0, 0, 100, 0, 0), 1, 0, 0, 100, 0);
+        // the middle of 100, 0 and 50, 100 and 0, 0
+        flattened("a TWO", outline(0, 0, 0, 100, 0, 0, 50, 100, 1), 199, 0, 0, 100, 0, 50, 50);
+        // the middle of 80, 0 and 80, 80 and 0, 80 and 0, 0
+        flattened("a THREE", outline(0, 0, 0, 80, 0, 0, 80, 80, 2, 0, 80, 2), 79, 0, 0, 80, 0, 40, 60);
+        flattened("one TWO alone", outline(0, 0, 0, 50, 100, 1), 199, 0, 0, 25, 50);
+        flattened("one THREE alone", outline(0, 0, 0, 0, 40, 2, 40, 40, 2), 39, 0, 0, 15, 30);
+        // behind another outline its own POINT 0 is what comes behind the last one
+        Same.Script second = f -> {
+            Bench.FEW.play(f);
+            Bench.outline(f, 0, 900, 900, 0, 901, 900, 0);
+            Bench.outline(f, 0, 0, 0, 0, 100, 0, 0, 50, 100, 1);
+        };
+        flattened("in a second outline", second, 199, 900, 900, 901, 900, 0, 0, 100, 0, 50, 50);
     }
 
     // "|px - 2 qx + rx| and the same of y are not above t; of THREE also of Q, R, S"
