@@ -121,14 +121,7 @@ public final class OracleTest {
         int s = within(4, 32);
         int rule = RANDOM.nextInt(2);
         int answer = f.image(l, t, s, rule);
-        boolean holds = polygons != null;
-        if (holds) {
-            for (List<long[]> polygon : polygons) {
-                for (long[] p : polygon) {
-                    holds &= s * p[0] >= -16384 && s * p[0] < 49152 && s * p[1] >= -16384 && s * p[1] < 49152;
-                }
-            }
-        }
+        boolean holds = polygons != null && Plain.hasImage(polygons, s);
         Check.due("no image", answer == -1, !holds);
         if (!holds) {
             return latest;
@@ -138,7 +131,7 @@ public final class OracleTest {
         int[] box = {-1000, -1000, -1000, -1000};
         for (int i = -16; i < 48; i++) {
             for (int j = -16; j < 48; j++) {
-                int count = mayBeFilled(edges, i, j, s) ? Plain.count(edges, i, j, s, rule) : 0;
+                int count = Plain.mayBeFilled(edges, i, j, s) ? Plain.count(edges, i, j, s, rule) : 0;
                 Check.due("dot", f.dot(i, j), count);
                 if (count > 0) {
                     box[0] = filled == 0 ? i : Math.min(box[0], i);
@@ -154,20 +147,6 @@ public final class OracleTest {
             Check.due("box", f.box(what), box[what]);
         }
         return polygons;
-    }
-
-    // Dots beyond the polygons' own rectangle are spared the counting, to end in good time.
-    private static boolean mayBeFilled(List<long[]> edges, int i, int j, int s) {
-        long[] least = {Long.MAX_VALUE, Long.MAX_VALUE};
-        long[] most = {Long.MIN_VALUE, Long.MIN_VALUE};
-        for (long[] e : edges) {
-            for (int axis = 0; axis < 2; axis++) {
-                least[axis] = Math.min(least[axis], s * e[axis]);
-                most[axis] = Math.max(most[axis], s * e[axis]);
-            }
-        }
-        return 1024L * (i + 1) >= least[0] && 1024L * i <= most[0]
-            && 1024L * (j + 1) >= least[1] && 1024L * j <= most[1];
     }
 
     private static void programs() {
@@ -225,6 +204,10 @@ public final class OracleTest {
             acts.add(new int[] {0, within(-100, 100)});
         }
         acts.add(new int[] {op, arg});
+        if (op >= 1 && op <= 15 && op != 2 && wild > 3 && RANDOM.nextBoolean()) {
+            // what it leaves comes to be a place, so that it is seen
+            acts.add(new int[] {RANDOM.nextBoolean() ? 23 : 25, within(0, points - 1)});
+        }
     }
 
     private static void lines() {

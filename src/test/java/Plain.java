@@ -183,6 +183,32 @@ final class Plain {
         return filled;
     }
 
+    /** "There is no image, if for a point x, y of the polygons .." */
+    static boolean hasImage(List<List<long[]>> polygons, int s) {
+        for (List<long[]> polygon : polygons) {
+            for (long[] p : polygon) {
+                if (s * p[0] < -16384 || s * p[0] >= 49152 || s * p[1] < -16384 || s * p[1] >= 49152) {
+                    return false;
+                }
+            }
+        }
+        return true;
+    }
+
+    // Dots beyond the polygons' own rectangle are spared the counting, to end in good time.
+    static boolean mayBeFilled(List<long[]> edges, int i, int j, int s) {
+        long[] least = {Long.MAX_VALUE, Long.MAX_VALUE};
+        long[] most = {Long.MIN_VALUE, Long.MIN_VALUE};
+        for (long[] e : edges) {
+            for (int axis = 0; axis < 2; axis++) {
+                least[axis] = Math.min(least[axis], s * e[axis]);
+                most[axis] = Math.max(most[axis], s * e[axis]);
+            }
+        }
+        return 1024L * (i + 1) >= least[0] && 1024L * i <= most[0]
+            && 1024L * (j + 1) >= least[1] && 1024L * j <= most[1];
+    }
+
     static int crossings(List<long[]> edges) {
         int pairs = 0;
         for (int p = 0; p < edges.size(); p++) {

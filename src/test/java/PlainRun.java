@@ -68,12 +68,21 @@ final class PlainRun {
         return 0;
     }
 
-    private int fault(int op, int arg, int acts) {
+    /** How many numbers of the STACK the act asks for. */
+    static int needs(int op) {
         boolean wantsTwo = op == 3 || (op >= 4 && op <= 7) || (op >= 12 && op <= 15);
         boolean wantsOne = op == 1 || op == 2 || (op >= 8 && op <= 11) || op == 17 || op == 20
             || op == 23 || op == 25;
-        boolean grows = op == 0 || op == 1 || op == 21 || op == 22 || op == 24;
-        if (stack.size() < (wantsTwo ? 2 : wantsOne ? 1 : 0) || (grows && stack.size() == 32)) {
+        return wantsTwo ? 2 : wantsOne ? 1 : 0;
+    }
+
+    /** Whether there is one more on the STACK behind the act. */
+    static boolean grows(int op) {
+        return op == 0 || op == 1 || op == 21 || op == 22 || op == 24;
+    }
+
+    private int fault(int op, int arg, int acts) {
+        if (stack.size() < needs(op) || (grows(op) && stack.size() == 32)) {
             return 1;
         }
         if (op >= 22 && op <= 27 && (arg < 0 || arg >= outlineOf.length)) {
@@ -105,7 +114,7 @@ final class PlainRun {
             case 0: return push(arg);
             case 1: return push(stack.get(stack.size() - 1));
             case 2: pop(); return true;
-            case 3: stack.add(stack.size() - 1, pop()); return true;
+            case 3: stack.add(stack.remove(stack.size() - 2)); return true;
             case 8: return push(-pop());
             case 9: return push(Math.abs(pop()));
             case 10: return push(64 * Plain.rounded(pop(), 64));
