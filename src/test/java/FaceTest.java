@@ -34,8 +34,24 @@ public final class FaceTest {
         }
         sizes(LetterFoundry.class);
         Check.due("classes", LetterFoundry.class.getDeclaredClasses().length < 12, true);
-        text(args.length > 0 ? args[0] : "src/main/java/LetterFoundry.java");
+        String program = args.length > 0 ? args[0] : "src/main/java/LetterFoundry.java";
+        text(program);
+        document(program);
         Check.end();
+    }
+
+    // The document's own text of the face: each line of it, with the names of the parameters.
+    private static void document(String program) throws Exception {
+        String code = Files.readString(Path.of(program), StandardCharsets.ISO_8859_1);
+        int lines = 0;
+        for (String line : Files.readAllLines(Path.of("../shared/DOC.md"))) {
+            if (line.startsWith("    public ")) {
+                String there = line.contains(" = ") ? line : line.replace(";", " {");
+                Check.due("the class has " + line, code.contains(there + "\n"), true);
+                lines++;
+            }
+        }
+        Check.due("lines of the face", lines, FACE.length + 2);
     }
 
     private static void face() {

@@ -131,8 +131,7 @@ public final class ModelTest {
             op = op == 19 || PlainRun.needs(op) > height ? 0 : op;
             boolean goes = op >= 16 && op <= 18 && random.nextInt(10) > 0;
             call("act " + l + " " + op + " " + (op == 0 ? "small" : goes ? k + within(1, 3) : "arg"));
-            boolean takesOne = PlainRun.needs(op) == 2 && op != 3 || op == 2 || op == 17 || op == 20 || op == 23 || op == 25;
-            height += PlainRun.grows(op) ? 1 : takesOne ? -1 : 0;
+            height += PlainRun.grows(op) ? 1 : PlainRun.shrinks(op) ? -1 : 0;
         }
         for (int k = 0; k < height; k++) {
             call("act " + l + (random.nextBoolean() ? " 23" : " 25") + " k");

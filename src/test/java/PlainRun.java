@@ -81,6 +81,11 @@ final class PlainRun {
         return op == 0 || op == 1 || op == 21 || op == 22 || op == 24;
     }
 
+    /** Whether there is one less. */
+    static boolean shrinks(int op) {
+        return op == 2 || op == 17 || op == 20 || op == 23 || op == 25 || (needs(op) == 2 && op != 3);
+    }
+
     private int fault(int op, int arg, int acts) {
         if (stack.size() < needs(op) || (grows(op) && stack.size() == 32)) {
             return 1;

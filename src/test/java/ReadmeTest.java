@@ -17,7 +17,8 @@ import java.util.stream.Stream;
 public final class ReadmeTest {
     private static final Pattern CALL =
         Pattern.compile("(?:int (\\w+) = )?f\\.(\\w+)\\(([^)]*)\\);\\s*// (-?\\d+|true|false)(?:: .*)?");
-    private static final Pattern ROW = Pattern.compile("\\| `(\\w+)\\(([^)]*)\\)` \\| .+ \\| `(NONE|false|-?\\d+)` \\|");
+    private static final Pattern ROW =
+        Pattern.compile("\\| `(\\w+)\\(([^)]*)\\)` \\| .+ \\| `(NONE|false|-?\\d+)` \\|");
     private static final Pattern FACE =
         Pattern.compile("    public (?:int|long|boolean) (\\w+)\\(([^)]*)\\) \\{");
 
